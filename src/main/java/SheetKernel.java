@@ -426,6 +426,7 @@ public final class SheetKernel {
         }
         if (copied) {
             task.faults[0]++;
+            // What is copied must stay in its frame while the hand goes round.
             int at = findFrame(task, sheet.place == IN_FRAME ? sheet.at : NONE);
             if (at == NONE) {
                 return null;
@@ -872,6 +873,7 @@ public final class SheetKernel {
             return NONE;
         }
 
+        /** USED at once: a sheet that comes in only to be copied is touched by nothing else. */
         void seat(Sheet sheet, int at) {
             if (at < 0 || at >= FRAMES) {
                 return;
@@ -888,7 +890,9 @@ public final class SheetKernel {
                 return;
             }
             used[at] = true;
-            changed[at] |= written;
+            if (written) {
+                changed[at] = true;
+            }
         }
 
         void vacate(int at) {

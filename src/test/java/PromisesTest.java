@@ -255,7 +255,12 @@ public final class PromisesTest {
     due("frame of the gone one", x.frame(1), 0);
     due("the other stays", x.read(1, 0), 5);
     x.area(0, 1, 1, SHARED);
-    due("a new sheet is 0", x.read(0, 8), 0);
+    due("a new sheet is absent", x.page(0, 1, 1), 0);
+    due("and in no frame", x.page(0, 1, 2), -1);
+    due("all its words are 0", x.read(0, 8), 0);
+    x.area(0, 14, 2, SHARED);
+    x.free(0, 14, 2);
+    due("up to the last page", x.about(0, 10), 2);
     for (int p : OFF_PROCESS) dueThrow("process", INDEX, () -> x.free(p, 0, 0));
     dueThrow("lives not", INDEX, () -> x.free(2, 0, 0));
     for (int g : OFF_PAGE) dueThrow("page", INDEX, () -> x.free(0, g, 0));
@@ -368,6 +373,10 @@ public final class PromisesTest {
     dueThrow("refused", STATE, () -> x.read(0, 24));
     SheetKernel y = withCode(9);
     due("code is read", y.read(0, 0), 9);
+    SheetKernel z = withArea(16, PRIVATE);
+    for (int i = 0; i < 11; i++) z.read(0, 8 * i);
+    due("what was only read has no slots, but packs", z.page(0, 3, 1), 2);
+    due("bytes", z.pool(0), 2);
     readFromPool();
     readFromSlots();
   }
@@ -695,6 +704,9 @@ public final class PromisesTest {
     // Page 4 went while slot 0 was taken still.
     due("page 4", y.page(0, 4, 2), 2);
     due("lost one is free", y.slots(0), 0);
+    y.read(0, 88);
+    due("page 5 has it now", y.page(0, 5, 2), 0);
+    due("and has not lost it", y.read(0, 40), 41000123);
     SheetKernel z = withArea(16, PRIVATE);
     z.valuable(0, true);
     fill(z, 0, 0, 11);
@@ -702,6 +714,7 @@ public final class PromisesTest {
     z.read(0, 24);
     due("lower stays", z.page(0, 3, 5), 0);
     due("other is free", z.slots(1), 0);
+    due("one only", z.page(0, 3, 4), -1);
     z.slot(0, 2);
     due("in a frame its words are there", z.read(0, 24), 25000075);
     SheetKernel w = withArea(16, PRIVATE);
@@ -851,6 +864,10 @@ public final class PromisesTest {
     x.tick();
     due("not USED", x.frame(0), 1);
     due("not USED, CHANGED", x.frame(1), 5);
+    x.read(0, 16);
+    due("USED again", x.frame(0), 3);
+    x.write(0, 8, 2);
+    due("USED again", x.frame(1), 7);
   }
 
   private static void outOfMemory() {
@@ -994,6 +1011,15 @@ public final class PromisesTest {
 
   private static void broken() {
     promise = 20;
+    SheetKernel y = withProcesses(1);
+    for (int i = 0; i < 20; i++) {
+      y.area(0, 0, 16, PRIVATE);
+      y.write(0, 8 * (i % 16), i);
+      y.free(0, 0, 16);
+    }
+    y.area(0, 0, 16, PRIVATE);
+    for (int g = 0; g < 16; g++) y.write(0, 8 * g, 1000003 * g);
+    due("sheets are used again", y.broken(), 0);
     SheetKernel x = withProcesses(3);
     x.valuable(1, true);
     for (int p = 0; p < 3; p++) {
