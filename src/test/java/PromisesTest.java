@@ -1,121 +1,35 @@
 /** What the document says of each promise: ordinary inputs, the edges that it names, and wrong inputs. */
-public final class PromisesTest {
-  private static final int PRIVATE = 0;
-  private static final int SHARED = 1;
-  private static final int CODE = 2;
-  private static final int BIG = Integer.MAX_VALUE;
-  private static final int SMALL = Integer.MIN_VALUE;
-  private static final int[] OFF_PROCESS = {-1, 8, BIG, SMALL};
-  private static final int[] OFF_PAGE = {-1, 16, BIG, SMALL};
-  private static final int[] OFF_WORD = {-1, 128, BIG, SMALL};
-  private static final int[] OFF_COUNT = {0, 17, -1, BIG, SMALL};
-
-  private static final Class<?> INDEX = IndexOutOfBoundsException.class;
-  private static final Class<?> ARGUMENT = IllegalArgumentException.class;
-  private static final Class<?> STATE = IllegalStateException.class;
-  private static final Class<?> ENDED = UnsupportedOperationException.class;
-
-  private static int promise;
-  private static int wrong;
-  private static int checks;
-
-  private interface Call {
-    void make();
-  }
-
-  private static void due(String what, int got, int want) {
-    checks++;
-    if (got != want) {
-      wrong++;
-      System.out.println("promise " + promise + ": " + what + " answered " + got + ", due is " + want);
-    }
-  }
-
-  /** The exact class: an exception of the machine's own is a wrong answer too. */
-  private static void dueThrow(String what, Class<?> want, Call call) {
-    checks++;
-    Class<?> got = null;
-    try {
-      call.make();
-    } catch (RuntimeException e) {
-      got = e.getClass();
-    }
-    if (got != want) {
-      wrong++;
-      System.out.println("promise " + promise + ": " + what + " threw " + got + ", due is " + want);
-    }
-  }
-
+public final class PromisesTest extends Checks {
   public static void main(String[] args) {
-    newObject();
-    spawn();
-    area();
-    share();
-    free();
-    fork();
-    exit();
-    read();
-    write();
-    copies();
-    load();
-    run();
-    slot();
-    lostSlots();
-    valuable();
-    tick();
-    about();
-    page();
-    frame();
-    outOfMemory();
-    slots();
-    pool();
-    broken();
-    System.out.println(wrong == 0 ? checks + " answers are as due" : wrong + " answers are not as due");
-    if (wrong != 0) System.exit(1);
-  }
-
-  // ---- what the tests start with
-
-  private static SheetKernel withProcesses(int many) {
-    SheetKernel x = new SheetKernel();
-    for (int i = 0; i < many; i++) x.spawn();
-    return x;
-  }
-
-  private static SheetKernel withArea(int pages, int kind) {
-    SheetKernel x = withProcesses(1);
-    x.area(0, 0, pages, kind);
-    return x;
-  }
-
-  /** Eight words, none of which packs below five bytes. */
-  private static void fill(SheetKernel x, int process, int page) {
-    for (int i = 0; i < 8; i++) x.load(process, 8 * page + i, 1000003 * (8 * page + i + 1));
-  }
-
-  private static void fill(SheetKernel x, int process, int page, int count) {
-    for (int i = page; i < page + count; i++) fill(x, process, i);
-  }
-
-  private static void failAllSlots(SheetKernel x) {
-    for (int i = 0; i < 24; i++) x.slot(i, 1);
-  }
-
-  private static int word(int what, int r, int s, int n) {
-    return what << 24 | r << 22 | s << 20 | (n & 0xFFFF);
-  }
-
-  private static SheetKernel withCode(int... words) {
-    SheetKernel x = withProcesses(1);
-    x.area(0, 0, 2, CODE);
-    for (int i = 0; i < words.length; i++) x.load(0, i, words[i]);
-    return x;
+    test("promise 1", PromisesTest::newObject);
+    test("promise 2", PromisesTest::spawn);
+    test("promise 3", PromisesTest::area);
+    test("promise 4", PromisesTest::share);
+    test("promise 5", PromisesTest::free);
+    test("promise 6", PromisesTest::fork);
+    test("promise 7", PromisesTest::exit);
+    test("promise 8", PromisesTest::read);
+    test("promise 9", PromisesTest::write);
+    test("promise 9, copies", PromisesTest::copies);
+    test("promise 10", PromisesTest::load);
+    test("promise 11", PromisesTest::run);
+    test("promise 12", PromisesTest::slot);
+    test("promise 12, LOST", PromisesTest::lostSlots);
+    test("promise 13", PromisesTest::valuable);
+    test("promise 14", PromisesTest::tick);
+    test("promise 15", PromisesTest::about);
+    test("promise 16", PromisesTest::page);
+    test("promise 17", PromisesTest::frame);
+    test("promise 17, OUT OF MEMORY", PromisesTest::outOfMemory);
+    test("promise 18", PromisesTest::slots);
+    test("promise 19", PromisesTest::pool);
+    test("promise 20", PromisesTest::broken);
+    finish();
   }
 
   // ---- the promises
 
   private static void newObject() {
-    promise = 1;
     SheetKernel x = new SheetKernel();
     due("NONE", SheetKernel.NONE, -1);
     for (int p = 0; p < 8; p++) {
@@ -136,7 +50,6 @@ public final class PromisesTest {
   }
 
   private static void spawn() {
-    promise = 2;
     SheetKernel x = new SheetKernel();
     for (int p = 0; p < 8; p++) {
       due("spawn", x.spawn(), p);
@@ -157,7 +70,6 @@ public final class PromisesTest {
   }
 
   private static void area() {
-    promise = 3;
     SheetKernel x = withProcesses(2);
     x.area(0, 2, 3, CODE);
     x.area(0, 15, 1, SHARED);
@@ -183,7 +95,6 @@ public final class PromisesTest {
   }
 
   private static void share() {
-    promise = 4;
     SheetKernel x = withProcesses(3);
     x.area(0, 0, 4, SHARED);
     x.area(0, 4, 1, PRIVATE);
@@ -242,7 +153,6 @@ public final class PromisesTest {
   }
 
   private static void free() {
-    promise = 5;
     SheetKernel x = withProcesses(2);
     x.area(0, 0, 3, SHARED);
     x.share(1, 0, 0, 0, 1);
@@ -293,7 +203,6 @@ public final class PromisesTest {
   }
 
   private static void fork() {
-    promise = 6;
     SheetKernel x = withCode(word(1, 1, 0, 7), word(1, 2, 0, -3));
     x.area(0, 4, 1, PRIVATE);
     x.area(0, 5, 1, SHARED);
@@ -334,7 +243,6 @@ public final class PromisesTest {
   }
 
   private static void exit() {
-    promise = 7;
     SheetKernel x = withArea(4, PRIVATE);
     x.write(0, 0, 5);
     x.valuable(0, true);
@@ -356,7 +264,6 @@ public final class PromisesTest {
   }
 
   private static void read() {
-    promise = 8;
     SheetKernel x = withArea(16, PRIVATE);
     due("absent", x.read(0, 127), 0);
     due("place", x.page(0, 15, 1), 1);
@@ -424,7 +331,6 @@ public final class PromisesTest {
   }
 
   private static void write() {
-    promise = 9;
     SheetKernel x = withArea(16, PRIVATE);
     x.write(0, 127, BIG);
     due("word", x.read(0, 127), BIG);
@@ -527,7 +433,6 @@ public final class PromisesTest {
   }
 
   private static void load() {
-    promise = 10;
     SheetKernel x = withProcesses(1);
     x.area(0, 0, 1, CODE);
     x.area(0, 1, 1, PRIVATE);
@@ -555,7 +460,6 @@ public final class PromisesTest {
   }
 
   private static void run() {
-    promise = 11;
     SheetKernel x = withCode(
         word(1, 0, 0, 3), word(1, 1, 0, -32768), word(4, 2, 0, 32767), word(4, 2, 2, 1),
         word(3, 2, 0, 61), word(2, 3, 0, 61), word(4, 0, 3, -1), word(1, 0, 0, 0) | 0xF0000,
@@ -659,7 +563,6 @@ public final class PromisesTest {
   }
 
   private static void slot() {
-    promise = 12;
     SheetKernel x = withArea(16, PRIVATE);
     x.slot(0, 1);
     due("not noticed yet", x.slots(0), 0);
@@ -729,7 +632,6 @@ public final class PromisesTest {
   }
 
   private static void valuable() {
-    promise = 13;
     SheetKernel x = withArea(16, PRIVATE);
     x.valuable(0, true);
     due("is", x.about(0, 12), 1);
@@ -765,7 +667,6 @@ public final class PromisesTest {
   }
 
   private static void tick() {
-    promise = 14;
     SheetKernel x = withArea(16, PRIVATE);
     for (int i = 0; i < 7; i++) x.read(0, 8 * i);
     x.tick();
@@ -788,7 +689,6 @@ public final class PromisesTest {
   }
 
   private static void about() {
-    promise = 15;
     SheetKernel x = withCode(word(1, 0, 0, 10), word(1, 1, 0, 11), word(1, 2, 0, 12), word(1, 3, 0, 13));
     x.area(0, 4, 3, PRIVATE);
     x.area(0, 8, 2, SHARED);
@@ -817,7 +717,6 @@ public final class PromisesTest {
   }
 
   private static void page() {
-    promise = 16;
     SheetKernel x = withArea(16, PRIVATE);
     x.valuable(0, true);
     int[] absent = {0, 0, -1, 1, -1, -1};
@@ -846,7 +745,6 @@ public final class PromisesTest {
   }
 
   private static void frame() {
-    promise = 17;
     SheetKernel x = withArea(16, PRIVATE);
     for (int k : new int[] {-2, 10, BIG, SMALL}) due("another one", x.frame(k), -1);
     x.read(0, 0);
@@ -942,7 +840,6 @@ public final class PromisesTest {
   }
 
   private static void slots() {
-    promise = 18;
     SheetKernel x = withArea(16, PRIVATE);
     for (int k : new int[] {-2, 24, BIG, SMALL}) due("another one", x.slots(k), -1);
     x.slot(1, 1);
@@ -958,7 +855,6 @@ public final class PromisesTest {
   }
 
   private static void pool() {
-    promise = 19;
     for (int w : new int[] {-1, 4, BIG, SMALL}) due("what", new SheetKernel().pool(w), -1);
     int[] zeros = {0, 0, 0, 0, 0, 0, 0, 0};
     packs("a run", zeros, 2);
@@ -1010,7 +906,6 @@ public final class PromisesTest {
   }
 
   private static void broken() {
-    promise = 20;
     SheetKernel y = withProcesses(1);
     for (int i = 0; i < 20; i++) {
       y.area(0, 0, 16, PRIVATE);
